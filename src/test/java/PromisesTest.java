@@ -110,6 +110,7 @@ public final class PromisesTest {
     private static void behindWhenFull() {
         OrderLine x = full();
         x.remove(999);
+        due("look(2), only the last number", 999, () -> x.look(2));
         due("the last number", 999, () -> x.behind(500));
         due("look(0) when full", 1000, () -> x.look(0));
         due("look(1) when full", 998, () -> x.look(1));

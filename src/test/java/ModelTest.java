@@ -2,10 +2,12 @@ import java.util.ArrayList;
 import java.util.List;
 import java.util.Random;
 
-/** Many runs of 512 mixed calls, each answer held against a slow and plain model of the line. */
+/** Many runs of mixed calls, each answer held against a slow and plain model of the line. */
 public final class ModelTest {
     private static final int RUNS = 200;
-    private static final int CALLS = 512;
+    /** What an object is used for; every second run leaves some calls for a look at the line. */
+    private static final int MOST_CALLS = 512;
+    private static final int LOOKS = 200;
     private static final int THROWN = -1000;
     private static final int OTHER_THROWN = -1001;
 
@@ -167,8 +169,11 @@ public final class ModelTest {
         Random random = new Random(seed);
         Line real = new Real();
         Model model = new Model();
+        List<int[]> run = new ArrayList<>();
         boolean growing = seed % 4 == 0;
-        for (int i = 0; i < CALLS; i++) {
+        boolean looked = seed / 4 % 2 == 0;
+        int calls = looked ? MOST_CALLS - LOOKS : MOST_CALLS;
+        for (int i = 0; i < calls; i++) {
             int size = model.line.size();
             int kind = pickKind(random, growing);
             int a = kind == 11 ? random.nextInt(5) - 1 : pick(random, size);
@@ -181,14 +186,27 @@ public final class ModelTest {
                     + ", " + b + ", " + c + " answered " + got + ", due is " + want);
                 return true;
             }
+            run.add(new int[] {kind, a, b, c});
         }
-        return !sameLine(seed, real, model);
+        return looked && !sameLine(seed, run, model);
     }
 
-    /** Goes beyond the 512 calls, where the class keeps its promises too, to see each stamp. */
-    private static boolean sameLine(int seed, Line real, Model model) {
+    private static Line again(List<int[]> run) {
+        Line real = new Real();
+        for (int[] call : run) {
+            real.call(call[0], call[1], call[2], call[3]);
+        }
+        return real;
+    }
+
+    /** Looks at every stamp, on new objects with the same run: one has not calls enough left. */
+    private static boolean sameLine(int seed, List<int[]> run, Model model) {
+        Line real = null;
+        int looks = 0;
         for (int i = -1; i <= 1000; i++) {
             for (int kind : new int[] {6, 8, 9}) {
+                real = looks % LOOKS == 0 ? again(run) : real;
+                looks++;
                 if (real.call(kind, i, i % 2, 0) != model.call(kind, i, i % 2, 0)) {
                     System.out.println("run " + seed + ": " + NAMES[kind] + " of " + i
                         + " is wrong when the run has ended");

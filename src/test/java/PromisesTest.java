@@ -371,6 +371,32 @@ public final class PromisesTest {
         due("the least of two gaps", 2, () -> x.look(2));
     }
 
+    /** The example of README.md, so that it stays true. */
+    private static void example() {
+        OrderLine line = new OrderLine();
+        int a = line.behind(0);
+        int b = line.behind(0);
+        due("example: a", 1, () -> a);
+        due("example: b", 2, () -> b);
+        dueLine("example: behind", line, 0, 2, 1);
+        due("example: several", 3, () -> line.several(b, 3));
+        dueLine("example: several", line, 0, 2, 3, 4, 5, 1);
+        due("example: compare", -1, () -> line.compare(b, a));
+        due("example: carry", 3, () -> line.carry(b, a, a));
+        dueLine("example: carry", line, 0, 2, 1, 3, 4, 5);
+        due("example: remove", true, line.remove(4));
+        dueLine("example: remove", line, 0, 2, 1, 3, 5);
+        due("example: look", 4, () -> line.look(2));
+        due("example: greatest", 3, () -> line.greatest(b, 3));
+        due("example: clear", 2, () -> line.clear(b, 5));
+        dueLine("example: clear", line, 0, 2, 5);
+        due("example: next", 5, () -> line.next(b, true));
+        due("example: next ahead of the first", NONE, () -> line.next(0, false));
+        due("example: place", THROWN, () -> line.place(3));
+        line.wipe();
+        dueLine("example: wipe", line, 0);
+    }
+
     public static void main(String[] args) {
         newObject();
         behind();
@@ -389,6 +415,7 @@ public final class PromisesTest {
         greatest();
         wipe();
         look();
+        example();
         System.out.println(wrong == 0 ? "all answers are as due" : wrong + " answers are not as due");
         if (wrong != 0) {
             System.exit(1);
